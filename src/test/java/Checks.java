@@ -1,0 +1,105 @@
+/** What the tests share: calls in short, answers that are compared, and an end with an exit code. */
+final class Checks {
+    private static final String[] LANGUAGES = {"EXPRESSIONS", "QUERIES", "RULES"};
+    private static int checked = 0;
+    private static int wrong = 0;
+
+    private Checks() {
+    }
+
+    /** A call that may throw. */
+    interface Call {
+        long answer();
+    }
+
+    static void due(String what, long got, long want) {
+        checked++;
+        if (got != want) {
+            wrong++;
+            System.out.println(what + " answered " + got + ", due is " + want);
+        }
+    }
+
+    /** Exactly this class is due: what the Java machine throws is often a class below it. */
+    static void thrown(String what, Class<? extends Exception> want, Call call) {
+        checked++;
+        String got;
+        try {
+            got = "answered " + call.answer();
+        } catch (RuntimeException e) {
+            if (e.getClass() == want) {
+                return;
+            }
+            got = "threw " + e;
+        }
+        wrong++;
+        System.out.println(what + " " + got + ", due is " + want.getName());
+    }
+
+    static void argument(String what, Call call) {
+        thrown(what, IllegalArgumentException.class, call);
+    }
+
+    static void state(String what, Call call) {
+        thrown(what, IllegalStateException.class, call);
+    }
+
+    static void index(String what, Call call) {
+        thrown(what, IndexOutOfBoundsException.class, call);
+    }
+
+    static void type(NotebookWeir x, int hand, String text) {
+        for (int i = 0; i < text.length(); i++) {
+            x.type(hand, text.charAt(i));
+        }
+    }
+
+    /** Makes a cell of EXPRESSIONS; returns its number. */
+    static int expressions(NotebookWeir x, String text) {
+        type(x, 0, text);
+        return x.cell(0, NotebookWeir.EXPRESSIONS);
+    }
+
+    static int query(NotebookWeir x, String text) {
+        type(x, 0, text);
+        return x.cell(0, NotebookWeir.QUERIES);
+    }
+
+    static int rules(NotebookWeir x, String text) {
+        type(x, 0, text);
+        return x.cell(0, NotebookWeir.RULES);
+    }
+
+    /** Makes a notebook by hand of cells of EXPRESSIONS. */
+    static NotebookWeir notebook(String... texts) {
+        NotebookWeir x = new NotebookWeir();
+        for (String text : texts) {
+            expressions(x, text);
+        }
+        return x;
+    }
+
+    static int edit(NotebookWeir x, int cell, int version, String text) {
+        type(x, 1, text);
+        return x.edit(1, cell, version);
+    }
+
+    static void fault(String text, int language, int want) {
+        NotebookWeir x = new NotebookWeir();
+        type(x, 0, text);
+        due("fault of " + LANGUAGES[language] + " \"" + text + "\"", x.fault(0, language), want);
+    }
+
+    static void states(String what, NotebookWeir x, int... want) {
+        for (int c = 0; c < want.length; c++) {
+            due(what + ": state(" + c + ")", x.state(c), want[c]);
+        }
+    }
+
+    static void end(String test) {
+        System.out.println(test + ": " + checked + " checked, " + wrong + " wrong");
+        if (wrong != 0 || checked == 0) {
+            System.exit(1);
+        }
+    }
+}
