@@ -1449,12 +1449,18 @@ public final class NotebookWeir {
             stack.putRow(top);
             for (int i = 0; i < count; i++) {
                 int item = stack.itemOf(top, i);
-                boolean isKept = kind == KEEP_LESS ? item < number : kind == KEEP_GREATER ? item > number : item == number;
-                if (isKept) {
+                if (isKept(kind, item, number)) {
                     stack.addItem(top, item);
                 }
             }
             return 0;
+        }
+
+        private static boolean isKept(int kind, int item, int number) {
+            if (kind == KEEP_LESS) {
+                return item < number;
+            }
+            return kind == KEEP_GREATER ? item > number : item == number;
         }
 
         private int sumUp(int kind) {
@@ -1612,7 +1618,6 @@ public final class NotebookWeir {
 
         void forget() {
             hasRun = false;
-            ranAt = 0;
             pastCount = 0;
             pastOldest = 0;
         }
