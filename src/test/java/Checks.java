@@ -90,6 +90,57 @@ final class Checks {
         due("fault of " + LANGUAGES[language] + " \"" + text + "\"", x.fault(0, language), want);
     }
 
+    /** The number that is drawn as the nth chance of a notebook: 149 as the first one. */
+    static int chance(int nth) {
+        long chance = 1;
+        for (int i = 0; i < nth; i++) {
+            chance = (75 * chance + 74) % 65537;
+        }
+        return (int) chance;
+    }
+
+    static void run(NotebookWeir x, int... cells) {
+        for (int cell : cells) {
+            x.run(cell);
+        }
+    }
+
+    /** Turns a widget, and lets a tick come. */
+    static void show(NotebookWeir x, int widget, int number) {
+        x.turn(widget, number);
+        x.tick();
+    }
+
+    static void counts(String what, NotebookWeir x, int runs, int found) {
+        due(what + ": runs", x.runs(), runs);
+        due(what + ": found", x.found(), found);
+    }
+
+    static void needs(String what, NotebookWeir x, int... want) {
+        for (int c = 0; c < want.length; c++) {
+            due(what + ": needs(" + c + ")", x.needs(c), want[c]);
+        }
+    }
+
+    static void rings(String what, NotebookWeir x, int... want) {
+        for (int c = 0; c < want.length; c++) {
+            due(what + ": ring(" + c + ")", x.ring(c), want[c]);
+        }
+    }
+
+    static void shows(String what, NotebookWeir x, int... want) {
+        for (int w = 0; w < want.length; w++) {
+            due(what + ": shows(" + w + ")", x.shows(w), want[w]);
+        }
+    }
+
+    static void order(String what, NotebookWeir x, int... want) {
+        for (int place = 0; place < want.length; place++) {
+            due(what + ": order(" + place + ")", x.order(place), want[place]);
+        }
+        due(what + ": order behind the last one", x.order(want.length), NotebookWeir.NONE);
+    }
+
     static void states(String what, NotebookWeir x, int... want) {
         for (int c = 0; c < want.length; c++) {
             due(what + ": state(" + c + ")", x.state(c), want[c]);

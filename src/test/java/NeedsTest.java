@@ -36,34 +36,22 @@ public final class NeedsTest {
         Checks.due("order far away", x.order(Integer.MAX_VALUE), NONE);
     }
 
-    private static void needs(String what, NotebookWeir x, int... want) {
-        for (int c = 0; c < want.length; c++) {
-            Checks.due(what + ": needs(" + c + ")", x.needs(c), want[c]);
-        }
-    }
-
-    private static void rings(String what, NotebookWeir x, int... want) {
-        for (int c = 0; c < want.length; c++) {
-            Checks.due(what + ": ring(" + c + ")", x.ring(c), want[c]);
-        }
-    }
-
     private static void uses() {
-        needs("used", Checks.notebook("a=1", "a", "b=#[a,c]", "b.0+a"), 0, 1, 1, 5);
-        needs("defined ahead is not used", Checks.notebook("a=1", "b=2;b", "b=a;c=b"), 0, 0, 1);
-        needs("itself it does not need", Checks.notebook("a=a+1", "b=b"), 0, 0);
-        needs("used ahead of the definition", Checks.notebook("b=a;a=1;a", "a!1"), 2, 1);
-        needs("no name is used", Checks.notebook("a=1", "[1,2].0;?;@"), 0, 0);
+        Checks.needs("used", Checks.notebook("a=1", "a", "b=#[a,c]", "b.0+a"), 0, 1, 1, 5);
+        Checks.needs("defined ahead is not used", Checks.notebook("a=1", "b=2;b", "b=a;c=b"), 0, 0, 1);
+        Checks.needs("itself it does not need", Checks.notebook("a=a+1", "b=b"), 0, 0);
+        Checks.needs("used ahead of the definition", Checks.notebook("b=a;a=1;a", "a!1"), 2, 1);
+        Checks.needs("no name is used", Checks.notebook("a=1", "[1,2].0;?;@"), 0, 0);
     }
 
     private static void changes() {
-        needs("one after the other", Checks.notebook("a!1", "a=1", "a!2", "a", "a!3"), 2, 0, 1, 16, 4);
-        needs("defined ahead is no change", Checks.notebook("a=1;a!1", "a"), 0, 1);
-        needs("changed ahead is not used again", Checks.notebook("a=1", "a!1;b=a"), 0, 1);
-        needs("changed without a definition", Checks.notebook("a!1", "a!1", "a"), 0, 1, 2);
-        needs("what it is changed by", Checks.notebook("a=1", "b=2", "a!b", "b"), 0, 0, 3, 2);
-        needs("changed, then defined", Checks.notebook("a!1;a=3", "a"), 0, 1);
-        needs("defined by a statement ahead alone", Checks.notebook("a=1", "b=a;a!b"), 0, 1);
+        Checks.needs("one after the other", Checks.notebook("a!1", "a=1", "a!2", "a", "a!3"), 2, 0, 1, 16, 4);
+        Checks.needs("defined ahead is no change", Checks.notebook("a=1;a!1", "a"), 0, 1);
+        Checks.needs("changed ahead is not used again", Checks.notebook("a=1", "a!1;b=a"), 0, 1);
+        Checks.needs("changed without a definition", Checks.notebook("a!1", "a!1", "a"), 0, 1, 2);
+        Checks.needs("what it is changed by", Checks.notebook("a=1", "b=2", "a!b", "b"), 0, 0, 3, 2);
+        Checks.needs("changed, then defined", Checks.notebook("a!1;a=3", "a"), 0, 1);
+        Checks.needs("defined by a statement ahead alone", Checks.notebook("a=1", "b=a;a!b"), 0, 1);
     }
 
     private static void languages() {
@@ -73,26 +61,26 @@ public final class NeedsTest {
         Checks.expressions(x, "p+r");
         Checks.query(x, "c=c<1s");
         Checks.rules(x, "s:p;p:s");
-        needs("languages", x, 0, 1, 3, 36, 0, 0);
+        Checks.needs("languages", x, 0, 1, 3, 36, 0, 0);
         Checks.states("heads that are defined twice", x, STALE, STALE, TWICE, BLOCKED, STALE, TWICE);
     }
 
     private static void widgets() {
         NotebookWeir x = Checks.notebook("w", "v=w", "w!1", "w+v");
-        needs("ahead of a widget", x, 4, 4, 0, 6);
+        Checks.needs("ahead of a widget", x, 4, 4, 0, 6);
         x.widget('u', 0, 9);
         x.widget('w', 0, 9);
-        needs("a widget defines its name", x, 4, 4, 1 << 17, 6);
+        Checks.needs("a widget defines its name", x, 4, 4, 1 << 17, 6);
         x.widget('v', 0, 9);
-        needs("a widget and a cell", x, 4, 4, 1 << 17, 6 | 1 << 18);
+        Checks.needs("a widget and a cell", x, 4, 4, 1 << 17, 6 | 1 << 18);
         Checks.states("a widget and a cell", x, STALE, TWICE, STALE, BLOCKED);
     }
 
     private static void twice() {
         NotebookWeir x = Checks.notebook("a=1", "a=2", "a", "b=a;a=3", "c=1", "a!1", "a");
-        needs("defined twice", x, 0, 0, 32, 32, 0, 11, 32);
+        Checks.needs("defined twice", x, 0, 0, 32, 32, 0, 11, 32);
         Checks.states("defined twice", x, TWICE, TWICE, BLOCKED, TWICE, STALE, RING, BLOCKED);
-        rings("defined twice", x, 0, 0, 0, 40, 0, 40, 0);
+        Checks.rings("defined twice", x, 0, 0, 0, 40, 0, 40, 0);
         Checks.edit(x, 1, 0, "d=2");
         Checks.edit(x, 3, 0, "b=a");
         Checks.states("once", x, STALE, STALE, STALE, STALE, STALE, STALE, STALE);
@@ -102,12 +90,12 @@ public final class NeedsTest {
 
     private static void rings() {
         NotebookWeir x = Checks.notebook("a=b", "b=c", "c=a", "d=a", "e=f", "f=e+d", "g=g");
-        rings("two rings", x, 7, 7, 7, 0, 48, 48, 0);
+        Checks.rings("two rings", x, 7, 7, 7, 0, 48, 48, 0);
         Checks.states("two rings", x, RING, RING, RING, BLOCKED, RING, RING, STALE);
         Checks.edit(x, 1, 0, "b=1");
-        rings("one ring", x, 0, 0, 0, 0, 48, 48, 0);
+        Checks.rings("one ring", x, 0, 0, 0, 0, 48, 48, 0);
         Checks.states("one ring", x, STALE, STALE, STALE, STALE, RING, RING, STALE);
-        rings("over a changed name", Checks.notebook("a=b", "a!1", "b=a"), 7, 7, 7);
+        Checks.rings("over a changed name", Checks.notebook("a=b", "a!1", "b=a"), 7, 7, 7);
     }
 
     private static void blocked() {
@@ -159,7 +147,7 @@ public final class NeedsTest {
         x.run(2);
         Checks.states("run", x, FRESH, FRESH, FAILED);
         Checks.expressions(x, "a!1");
-        needs("other needs", x, 0, 8, 0, 1);
+        Checks.needs("other needs", x, 0, 8, 0, 1);
         Checks.states("other needs", x, FRESH, STALE, FAILED, STALE);
         Checks.edit(x, 3, 0, "d=1");
         Checks.states("needs as then", x, FRESH, FRESH, FAILED, STALE);
@@ -173,22 +161,15 @@ public final class NeedsTest {
         Checks.states("what it needs again was run since then", x, FRESH, STALE, FAILED, STALE);
     }
 
-    private static void order(String what, NotebookWeir x, int... want) {
-        for (int place = 0; place < want.length; place++) {
-            Checks.due(what + ": order(" + place + ")", x.order(place), want[place]);
-        }
-        Checks.due(what + ": order behind the last one", x.order(want.length), NONE);
-    }
-
     private static void order() {
-        order("none", new NotebookWeir());
-        order("the lowest first", Checks.notebook("a=c", "1", "c=d", "d=2", "2"), 1, 3, 2, 0, 4);
-        order("without TWICE, RING and what they block",
+        Checks.order("none", new NotebookWeir());
+        Checks.order("the lowest first", Checks.notebook("a=c", "1", "c=d", "d=2", "2"), 1, 3, 2, 0, 4);
+        Checks.order("without TWICE, RING and what they block",
                 Checks.notebook("a=1", "a=2", "a", "b=c", "c=b", "d=c", "e=d", "f=g", "g=1"), 8, 7);
         NotebookWeir x = Checks.notebook("a=x", "b=a");
         x.run(0);
         Checks.states("an error", x, FAILED, BLOCKED);
-        order("errors do not matter", x, 0, 1);
-        order("changes", Checks.notebook("a", "a!1", "a!1", "a=1"), 3, 1, 2, 0);
+        Checks.order("errors do not matter", x, 0, 1);
+        Checks.order("changes", Checks.notebook("a", "a!1", "a!1", "a=1"), 3, 1, 2, 0);
     }
 }

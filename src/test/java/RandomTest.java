@@ -9,6 +9,8 @@ import java.util.Random;
 public final class RandomTest {
     private static final int NOTEBOOKS = 3000;
     private static final int CALLS = 512;
+    /** As many as an act of this test calls at most. */
+    private static final int MORE = 48;
     /** The texts of small notebooks, where much comes again: cells are found, and forgotten, and are as then. */
     private static final String[] FEW = {"a=1;a", "a=2;a", "a=w;a", "a=w*2;a", "a=[w];w", "a!1", "b=a;b", "b=a+w;b",
         "b=#[a,w];b", "c=?;c", "c=b+@;c", "c=b+a;c", "b!c;b", "w!1", "[w].1", "d=c*b+a;d", "d=c;d", "a=1+0;a"};
@@ -20,6 +22,7 @@ public final class RandomTest {
 
     private final Random random;
     private final List<String> told = new ArrayList<>();
+    private int spent;
     private NotebookWeir x;
     private Model model;
     private final int[] versions = new int[16];
@@ -49,7 +52,7 @@ public final class RandomTest {
                 }
                 System.exit(1);
             }
-            calls += CALLS;
+            calls += test.spent;
         }
         System.out.println("RandomTest: " + calls + " calls as modelled");
     }
@@ -58,9 +61,9 @@ public final class RandomTest {
         x = new NotebookWeir();
         model = new Model();
         int kinds = random.nextInt(3);
-        while (told.size() < CALLS) {
+        while (spent <= CALLS - MORE) {
             boolean isSame = random.nextInt(100) < (isSmall || told.size() < 100 ? 30 : 8) ? write() : askOrAct(kinds);
-            if (!isSame || told.size() < CALLS && random.nextInt(40) == 0 && !isFreshAsAnew()) {
+            if (!isSame || spent <= CALLS - MORE && random.nextInt(40) == 0 && !isFreshAsAnew()) {
                 return false;
             }
         }
@@ -85,6 +88,7 @@ public final class RandomTest {
         long is = answer(got);
         long due = answer(want);
         told.add(what + " -> " + is + (is == due ? "" : ", due is " + due));
+        spent++;
         last = is;
         return is == due && is != OTHER;
     }
@@ -233,6 +237,7 @@ public final class RandomTest {
     private boolean isFreshAsAnew() {
         for (int c = 0; c < made; c++) {
             int cell = c;
+            spent += 3;
             if (x.state(cell) == NotebookWeir.FRESH) {
                 long is = answer(() -> x.result(cell, NotebookWeir.NONE));
                 long anew = answer(() -> x.resultAnew(cell, NotebookWeir.NONE));

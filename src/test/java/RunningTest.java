@@ -24,24 +24,19 @@ public final class RunningTest {
         Checks.end("RunningTest");
     }
 
-    private static void count(String what, NotebookWeir x, int runs, int found) {
-        Checks.due(what + ": runs", x.runs(), runs);
-        Checks.due(what + ": found", x.found(), found);
-    }
-
     private static void mode() {
         NotebookWeir x = Checks.notebook("1");
         Checks.argument("mode(3)", () -> x.mode(3));
         Checks.argument("mode(-1)", () -> x.mode(-1));
         Checks.due("mode(ASKED)", x.mode(NotebookWeir.ASKED), NotebookWeir.BY_HAND);
         Checks.due("mode(AT_ONCE)", x.mode(NotebookWeir.AT_ONCE), NotebookWeir.ASKED);
-        count("at once when it is told", x, 1, 0);
+        Checks.counts("at once when it is told", x, 1, 0);
         Checks.due("mode(BY_HAND)", x.mode(NotebookWeir.BY_HAND), NotebookWeir.AT_ONCE);
         Checks.edit(x, 0, 0, "2");
-        count("by hand", x, 1, 0);
+        Checks.counts("by hand", x, 1, 0);
         Checks.state("result by hand", () -> x.result(0, NONE));
         Checks.due("error by hand", x.error(0), 0);
-        count("asked by hand", x, 1, 0);
+        Checks.counts("asked by hand", x, 1, 0);
     }
 
     private static void runRanges() {
@@ -60,56 +55,56 @@ public final class RunningTest {
         Checks.argument("value of `", () -> x.value('`', NONE));
         Checks.argument("value of {", () -> x.value('{', NONE));
         Checks.due("error in a RING", x.error(0), 0);
-        count("none of these", x, 0, 0);
+        Checks.counts("none of these", x, 0, 0);
     }
 
     private static void runWithNeeds() {
         NotebookWeir x = Checks.notebook("a=b+c;a", "b=?", "c=d", "d=?", "e=?", "f=a;f");
         Checks.due("run", x.run(0), 0);
         Checks.states("what it needs", x, FRESH, FRESH, FRESH, FRESH, STALE, STALE);
-        count("what it needs", x, 4, 0);
+        Checks.counts("what it needs", x, 4, 0);
         int first = 149;
         int second = (75 * first + 74) % 65537;
         Checks.due("the lowest first", x.value('b', NONE), first);
         Checks.due("then the other", x.value('d', NONE), second);
         Checks.due("its result", x.result(0, NONE), first + second);
         Checks.due("run what is behind", x.run(5), 0);
-        count("what is FRESH is not run for that", x, 5, 0);
+        Checks.counts("what is FRESH is not run for that", x, 5, 0);
         Checks.due("run again", x.run(3), 0);
         Checks.states("run again", x, STALE, FRESH, STALE, FRESH, STALE, STALE);
         Checks.due("run all behind", x.run(5), 0);
-        count("STALE ones are run for that", x, 9, 0);
+        Checks.counts("STALE ones are run for that", x, 9, 0);
     }
 
     private static void runBehindErrors() {
         NotebookWeir x = Checks.notebook("a=b+c+d+f", "b=1", "c=[1].1", "d=c", "e=1", "f=2");
         Checks.due("run behind an error", x.run(0), NONE);
         Checks.states("run behind an error", x, BLOCKED, FRESH, FAILED, BLOCKED, STALE, FRESH);
-        count("others are run", x, 3, 0);
+        Checks.counts("others are run", x, 3, 0);
         Checks.state("run what is BLOCKED", () -> x.run(0));
         Checks.due("run what FAILED", x.run(2), 0);
-        count("an error is not found again", x, 4, 0);
+        Checks.counts("an error is not found again", x, 4, 0);
         Checks.due("its error", x.error(2), 300);
         Checks.edit(x, 2, 0, "c=5");
         Checks.due("run then", x.run(0), 0);
         Checks.due("the error then", x.error(2), 0);
-        count("run then", x, 7, 0);
+        Checks.counts("run then", x, 7, 0);
     }
 
     private static void foundAgain() {
         NotebookWeir x = Checks.notebook("a=2", "b=a*3;b");
         Checks.due("run", x.run(1), 0);
         Checks.due("found again", x.run(1), 1);
-        count("found again", x, 2, 1);
+        Checks.counts("found again", x, 2, 1);
         Checks.edit(x, 0, 0, "a=3");
         Checks.due("another value", x.run(1), 0);
         Checks.due("its result", x.result(1, NONE), 9);
-        count("another value", x, 4, 1);
+        Checks.counts("another value", x, 4, 1);
         Checks.edit(x, 0, 1, "a=1+1");
         Checks.due("the same value, by another text", x.run(1), 1);
         Checks.due("its result", x.result(1, NONE), 6);
         Checks.due("its value", x.value('b', NONE), 6);
-        count("the same value, by another text", x, 5, 2);
+        Checks.counts("the same value, by another text", x, 5, 2);
         Checks.edit(x, 1, 0, "b=a*3");
         Checks.due("another text", x.run(1), 0);
         Checks.state("no result of the other text", () -> x.result(1, NONE));
@@ -184,7 +179,7 @@ public final class RunningTest {
         Checks.due("a text with @", x.run(2), 0);
         Checks.due("a query", x.run(4), 1);
         Checks.due("rules", x.run(5), 1);
-        count("some are found again", x, 9, 2);
+        Checks.counts("some are found again", x, 9, 2);
         Checks.due("the result of a query", x.result(4, NONE), 1);
         Checks.due("the result of rules", x.result(5, NONE), 1);
     }
@@ -196,16 +191,16 @@ public final class RunningTest {
         Checks.states("made", x, FAILED);
         Checks.expressions(x, "a=1");
         Checks.states("made", x, FRESH, FRESH);
-        count("made", x, 3, 0);
+        Checks.counts("made", x, 3, 0);
         Checks.due("value", x.value('b', NONE), 2);
         Checks.edit(x, 1, 0, "a=5");
         Checks.due("value", x.value('b', NONE), 6);
-        count("edited", x, 5, 0);
+        Checks.counts("edited", x, 5, 0);
         Checks.edit(x, 1, 1, "a=1");
-        count("edited back", x, 5, 2);
+        Checks.counts("edited back", x, 5, 2);
         Checks.edit(x, 1, 2, "c=1");
         Checks.states("the name has no value", x, FAILED, FRESH);
-        count("the name has no value", x, 7, 2);
+        Checks.counts("the name has no value", x, 7, 2);
         x.run(1);
         Checks.edit(x, 1, 3, "a=7");
         x.run(1);
@@ -219,16 +214,16 @@ public final class RunningTest {
         x.mode(NotebookWeir.AT_ONCE);
         Checks.expressions(x, "b=w;@");
         Checks.expressions(x, "?");
-        count("made", x, 2, 0);
+        Checks.counts("made", x, 2, 0);
         x.widget('w', 1, 9);
-        count("a widget is added", x, 3, 0);
+        Checks.counts("a widget is added", x, 3, 0);
         x.turn(0, 4);
-        count("turned", x, 3, 0);
+        Checks.counts("turned", x, 3, 0);
         x.tick();
-        count("a tick", x, 4, 0);
+        Checks.counts("a tick", x, 4, 0);
         Checks.due("time", x.result(0, NONE), 1);
         x.tick();
-        count("a tick that changes nothing", x, 4, 0);
+        Checks.counts("a tick that changes nothing", x, 4, 0);
         Checks.due("an old time is no change", x.result(0, NONE), 1);
         x.kill();
         Checks.states("killed", x, STALE, STALE);
@@ -250,15 +245,15 @@ public final class RunningTest {
     private static void asked() {
         NotebookWeir x = Checks.notebook("a=1;a", "b=a;b", "c=b;c", "d=[1].1", "e=d;e", "f=1");
         x.mode(NotebookWeir.ASKED);
-        count("told", x, 0, 0);
+        Checks.counts("told", x, 0, 0);
         Checks.due("a result", x.result(1, NONE), 1);
         Checks.states("a result", x, FRESH, FRESH, STALE, STALE, STALE, STALE);
         Checks.due("a value", x.value('c', NONE), 1);
-        count("a value", x, 3, 0);
+        Checks.counts("a value", x, 3, 0);
         Checks.due("an error", x.error(3), 300);
-        count("an error", x, 4, 0);
+        Checks.counts("an error", x, 4, 0);
         Checks.due("not again", x.error(3), 300);
-        count("not again", x, 4, 0);
+        Checks.counts("not again", x, 4, 0);
         Checks.states("state runs nothing", x, FRESH, FRESH, FRESH, FAILED, BLOCKED, STALE);
         Checks.due("no error of what is BLOCKED", x.error(4), 0);
         Checks.due("anew", x.resultAnew(0, NONE), 1);
@@ -268,25 +263,25 @@ public final class RunningTest {
         Checks.states("but it was run", x, FRESH, FRESH, FRESH, FAILED, BLOCKED, FRESH);
         Checks.edit(x, 0, 0, "a=2");
         Checks.due("what it needs is run, too", x.result(2, NONE), 2);
-        count("what it needs is run, too", x, 8, 0);
+        Checks.counts("what it needs is run, too", x, 8, 0);
     }
 
     private static void askedThatThrows() {
         NotebookWeir x = Checks.notebook("a=1", "b=[a]", "c=[1].1", "d=c");
         x.mode(NotebookWeir.ASKED);
         Checks.state("no result", () -> x.result(0, NONE));
-        count("no result", x, 1, 0);
+        Checks.counts("no result", x, 1, 0);
         Checks.state("no such item", () -> x.value('b', 1));
-        count("no such item", x, 2, 0);
+        Checks.counts("no such item", x, 2, 0);
         Checks.state("behind an error", () -> x.value('d', NONE));
         Checks.states("behind an error", x, FRESH, FRESH, FAILED, BLOCKED);
-        count("behind an error", x, 3, 0);
+        Checks.counts("behind an error", x, 3, 0);
         Checks.index("no such cell", () -> x.result(4, NONE));
         Checks.state("no such name", () -> x.value('z', NONE));
-        count("no such cell or name", x, 3, 0);
+        Checks.counts("no such cell or name", x, 3, 0);
         Checks.expressions(x, "z!1");
         Checks.state("a name that is changed alone", () -> x.value('z', NONE));
-        count("a name that is changed alone", x, 3, 0);
+        Checks.counts("a name that is changed alone", x, 3, 0);
     }
 
     private static void chanceAndTime() {

@@ -12,12 +12,6 @@ public final class WidgetsTest {
         Checks.end("WidgetsTest");
     }
 
-    private static void shows(String what, NotebookWeir x, int... want) {
-        for (int w = 0; w < want.length; w++) {
-            Checks.due(what + ": shows(" + w + ")", x.shows(w), want[w]);
-        }
-    }
-
     private static void widget() {
         NotebookWeir x = new NotebookWeir();
         Checks.argument("a name below a", () -> x.widget('`', 0, 1));
@@ -35,7 +29,7 @@ public final class WidgetsTest {
         Checks.due("the fourth widget", x.widget('c', -3, -3), 3);
         Checks.state("a fifth widget", () -> x.widget('d', 0, 1));
         Checks.argument("a wrong name is told ahead of that", () -> x.widget('A', 0, 1));
-        shows("the least at first", x, -1000, 1000, 4, -3);
+        Checks.shows("the least at first", x, -1000, 1000, 4, -3);
         Checks.index("shows(4)", () -> x.shows(4));
         Checks.index("shows(-1)", () -> x.shows(-1));
     }
@@ -48,18 +42,18 @@ public final class WidgetsTest {
         Checks.argument("turn below its least", () -> x.turn(0, 1));
         Checks.argument("turn above its greatest", () -> x.turn(0, 10));
         Checks.due("a tick without a turn", x.tick(), 1);
-        shows("a tick without a turn", x, 2);
+        Checks.shows("a tick without a turn", x, 2);
         Checks.due("turn", x.turn(0, 9), 2);
         Checks.due("turn again", x.turn(0, 7), 2);
-        shows("ahead of the tick", x, 2);
+        Checks.shows("ahead of the tick", x, 2);
         Checks.due("the tick", x.tick(), 2);
-        shows("the last turn counts", x, 7);
+        Checks.shows("the last turn counts", x, 7);
         Checks.due("turn after that", x.turn(0, 2), 7);
         Checks.due("turn to what it shows", x.turn(0, 7), 7);
         Checks.due("the tick", x.tick(), 3);
-        shows("as it was", x, 7);
+        Checks.shows("as it was", x, 7);
         x.tick();
-        shows("a turn counts for one tick", x, 7);
+        Checks.shows("a turn counts for one tick", x, 7);
     }
 
     private static void bind() {
@@ -74,21 +68,21 @@ public final class WidgetsTest {
         Checks.due("bind", x.bind(0, 1) ? 1 : 0, 1);
         x.turn(1, 5);
         x.tick();
-        shows("bound both ways, the second turned", x, 5, 5);
+        Checks.shows("bound both ways, the second turned", x, 5, 5);
         x.turn(0, 6);
         x.tick();
-        shows("bound both ways, the first turned", x, 6, 6);
+        Checks.shows("bound both ways, the first turned", x, 6, 6);
         Checks.due("not any more, told the other way", x.bind(1, 0) ? 1 : 0, 0);
         x.turn(0, 3);
         x.tick();
-        shows("not bound any more", x, 3, 6);
+        Checks.shows("not bound any more", x, 3, 6);
         Checks.due("bound again", x.bind(1, 0) ? 1 : 0, 1);
-        shows("to bind shows nothing anew", x, 3, 6);
+        Checks.shows("to bind shows nothing anew", x, 3, 6);
         x.tick();
-        shows("nor does a tick", x, 3, 6);
+        Checks.shows("nor does a tick", x, 3, 6);
         x.turn(0, 3);
         x.tick();
-        shows("but to turn, also to the same", x, 3, 3);
+        Checks.shows("but to turn, also to the same", x, 3, 3);
     }
 
     private static void spreading() {
@@ -102,18 +96,18 @@ public final class WidgetsTest {
         x.bind(2, 3);
         x.turn(0, 80);
         x.tick();
-        shows("the number of the turned one, held", x, 80, 5, 80, 60);
+        Checks.shows("the number of the turned one, held", x, 80, 5, 80, 60);
         x.turn(3, -7);
         x.tick();
-        shows("from the other end", x, 0, 0, 50, -7);
+        Checks.shows("from the other end", x, 0, 0, 50, -7);
         x.turn(3, 9);
         x.turn(0, 70);
         x.tick();
-        shows("the lowest turned one comes first", x, 70, 5, 70, 9);
+        Checks.shows("the lowest turned one comes first", x, 70, 5, 70, 9);
         x.turn(1, 4);
         x.turn(3, 60);
         x.tick();
-        shows("what is turned lies between", x, 4, 4, 50, 60);
+        Checks.shows("what is turned lies between", x, 4, 4, 50, 60);
     }
 
     private static void paths() {
@@ -128,15 +122,15 @@ public final class WidgetsTest {
         x.turn(1, 11);
         x.turn(2, 22);
         x.tick();
-        shows("directly and over others", x, 11, 11, 22, 11);
+        Checks.shows("directly and over others", x, 11, 11, 22, 11);
         x.bind(0, 1);
         x.turn(0, 7);
         x.tick();
-        shows("in a ring of widgets", x, 7, 7, 7, 7);
+        Checks.shows("in a ring of widgets", x, 7, 7, 7, 7);
         x.turn(3, 30);
         x.turn(1, 10);
         x.tick();
-        shows("1 ahead of 3", x, 10, 10, 10, 30);
+        Checks.shows("1 ahead of 3", x, 10, 10, 10, 30);
     }
 
     private static void values() {
