@@ -147,6 +147,26 @@ final class Checks {
         }
     }
 
+    /** Compares the number that EXPRESSIONS give, as they are run, and anew. */
+    static void gives(String text, int want) {
+        NotebookWeir x = notebook(text);
+        due(text + " runs", x.run(0), 0);
+        due(text, x.result(0, NotebookWeir.NONE), want);
+        due(text + " anew", x.resultAnew(0, NotebookWeir.NONE), want);
+        state(text + " has no item 0", () -> x.result(0, 0));
+        state(text + " has no item -2", () -> x.result(0, -2));
+    }
+
+    /** Compares the error that EXPRESSIONS end with. */
+    static void fails(String text, int error, int place) {
+        NotebookWeir x = notebook(text);
+        due(text + " runs", x.run(0), 0);
+        due("error of " + text, x.error(0), 100 * error + place);
+        due("state of " + text, x.state(0), NotebookWeir.FAILED);
+        state("result of " + text, () -> x.result(0, NotebookWeir.NONE));
+        state("result anew of " + text, () -> x.resultAnew(0, NotebookWeir.NONE));
+    }
+
     static void end(String test) {
         System.out.println(test + ": " + checked + " checked, " + wrong + " wrong");
         if (wrong != 0 || checked == 0) {

@@ -15,15 +15,6 @@ public final class LanguagesTest {
         Checks.end("LanguagesTest");
     }
 
-    private static void gives(String text, int want) {
-        NotebookWeir x = Checks.notebook(text);
-        Checks.due(text + " runs", x.run(0), 0);
-        Checks.due(text, x.result(0, NONE), want);
-        Checks.due(text + " anew", x.resultAnew(0, NONE), want);
-        Checks.state(text + " has no item 0", () -> x.result(0, 0));
-        Checks.state(text + " has no item -2", () -> x.result(0, -2));
-    }
-
     private static void givesRow(String text, int... want) {
         NotebookWeir x = Checks.notebook(text);
         Checks.due(text + " runs", x.run(0), 0);
@@ -35,53 +26,44 @@ public final class LanguagesTest {
         Checks.state("item -2 of " + text, () -> x.result(0, -2));
     }
 
-    private static void fails(String text, int error, int place) {
-        NotebookWeir x = Checks.notebook(text);
-        Checks.due(text + " runs", x.run(0), 0);
-        Checks.due("error of " + text, x.error(0), 100 * error + place);
-        Checks.due("state of " + text, x.state(0), NotebookWeir.FAILED);
-        Checks.state("result of " + text, () -> x.result(0, NONE));
-        Checks.state("result anew of " + text, () -> x.resultAnew(0, NONE));
-    }
-
     private static void numbers() {
-        gives("7", 7);
-        gives("000012", 12);
-        gives("1+2*3", 7);
-        gives("(1+2)*3", 9);
-        gives("1-2-3", -4);
-        gives("1-(2-3)", 2);
-        gives("2*3-4*5+6", -8);
-        gives("999999*999999", -729379967);
-        gives("999999*2148-999999", 999999 * 2148 - 999999);
-        gives("0-999999*2147-999999", 0 - 999999 * 2147 - 999999);
-        gives("(((7)))", 7);
+        Checks.gives("7", 7);
+        Checks.gives("000012", 12);
+        Checks.gives("1+2*3", 7);
+        Checks.gives("(1+2)*3", 9);
+        Checks.gives("1-2-3", -4);
+        Checks.gives("1-(2-3)", 2);
+        Checks.gives("2*3-4*5+6", -8);
+        Checks.gives("999999*999999", -729379967);
+        Checks.gives("999999*2148-999999", 999999 * 2148 - 999999);
+        Checks.gives("0-999999*2147-999999", 0 - 999999 * 2147 - 999999);
+        Checks.gives("(((7)))", 7);
     }
 
     private static void rows() {
         givesRow("[1]", 1);
         givesRow("[1,2+3,4*5]", 1, 5, 20);
         givesRow("[1,2,3,4,5,6,7,8]", 1, 2, 3, 4, 5, 6, 7, 8);
-        gives("[5,6].0", 5);
-        gives("[5,6].1+1", 7);
-        gives("#[5,6,7]", 3);
-        gives("#[5,6]*#[7,8]", 4);
+        Checks.gives("[5,6].0", 5);
+        Checks.gives("[5,6].1+1", 7);
+        Checks.gives("#[5,6,7]", 3);
+        Checks.gives("#[5,6]*#[7,8]", 4);
         givesRow("[[1].0,#[2,3]]", 1, 2);
-        gives("a=[3,4];a.1*a.0", 12);
+        Checks.gives("a=[3,4];a.1*a.0", 12);
         givesRow("a=[3,4];b=a;b", 3, 4);
     }
 
     private static void statements() {
-        gives("1;2", 2);
-        gives("1;a=2", 1);
-        gives("a=2;a;b=3", 2);
-        gives("a=2;a=a+1;a", 3);
-        gives("a=2;a!3;a", 5);
-        gives("a=2;a!a;a!a;a", 8);
-        gives("a=2;b=a;a!1;b", 2);
-        gives("?", 149);
-        gives("?;?", (75 * 149 + 74) % 65537);
-        gives("@", 0);
+        Checks.gives("1;2", 2);
+        Checks.gives("1;a=2", 1);
+        Checks.gives("a=2;a;b=3", 2);
+        Checks.gives("a=2;a=a+1;a", 3);
+        Checks.gives("a=2;a!3;a", 5);
+        Checks.gives("a=2;a!a;a!a;a", 8);
+        Checks.gives("a=2;b=a;a!1;b", 2);
+        Checks.gives("?", 149);
+        Checks.gives("?;?", (75 * 149 + 74) % 65537);
+        Checks.gives("@", 0);
         NotebookWeir x = Checks.notebook("a=1");
         x.run(0);
         Checks.state("a definition is no result", () -> x.result(0, NONE));
@@ -91,42 +73,42 @@ public final class LanguagesTest {
     }
 
     private static void errors() {
-        fails("a", UNTOLD, 0);
-        fails("1;a", UNTOLD, 2);
-        fails("b=1;b;a=c", UNTOLD, 6);
-        fails("a!1", UNTOLD, 0);
-        fails("1;b=2;a!1", UNTOLD, 6);
-        fails("a=a+1", UNTOLD, 0);
-        fails("b=a;a=1", UNTOLD, 0);
-        fails("a!1;a=2", UNTOLD, 0);
-        fails("[1]+2", KIND, 0);
-        fails("2+[1]", KIND, 0);
-        fails("1;2;[1]*2", KIND, 4);
-        fails("2-[1]", KIND, 0);
-        fails("1.0", KIND, 0);
-        fails("#1", KIND, 0);
-        fails("[[1]]", KIND, 0);
-        fails("a=[1];a!1", KIND, 6);
-        fails("a=1;a![1]", KIND, 4);
-        fails("[1].1", ITEM, 0);
-        fails("[1,2,3,4,5,6,7,8].8", ITEM, 0);
-        fails("1;[1].1", ITEM, 2);
-        fails("[1].0.0", KIND, 0);
+        Checks.fails("a", UNTOLD, 0);
+        Checks.fails("1;a", UNTOLD, 2);
+        Checks.fails("b=1;b;a=c", UNTOLD, 6);
+        Checks.fails("a!1", UNTOLD, 0);
+        Checks.fails("1;b=2;a!1", UNTOLD, 6);
+        Checks.fails("a=a+1", UNTOLD, 0);
+        Checks.fails("b=a;a=1", UNTOLD, 0);
+        Checks.fails("a!1;a=2", UNTOLD, 0);
+        Checks.fails("[1]+2", KIND, 0);
+        Checks.fails("2+[1]", KIND, 0);
+        Checks.fails("1;2;[1]*2", KIND, 4);
+        Checks.fails("2-[1]", KIND, 0);
+        Checks.fails("1.0", KIND, 0);
+        Checks.fails("#1", KIND, 0);
+        Checks.fails("[[1]]", KIND, 0);
+        Checks.fails("a=[1];a!1", KIND, 6);
+        Checks.fails("a=1;a![1]", KIND, 4);
+        Checks.fails("[1].1", ITEM, 0);
+        Checks.fails("[1,2,3,4,5,6,7,8].8", ITEM, 0);
+        Checks.fails("1;[1].1", ITEM, 2);
+        Checks.fails("[1].0.0", KIND, 0);
         // What is looked at first.
-        fails("[1]+x", UNTOLD, 0);
-        fails("[1]+2+x", KIND, 0);
-        fails("[1]+2*x", UNTOLD, 0);
-        fails("[1]*2*x", KIND, 0);
-        fails("[1].5+x", ITEM, 0);
-        fails("x+[1].5", UNTOLD, 0);
-        fails("[[1],x]", KIND, 0);
-        fails("[x,[1]]", UNTOLD, 0);
-        fails("[[1]+1,x]", KIND, 0);
-        fails("a!([1]+1)", UNTOLD, 0);
-        fails("a=[1];a!x", UNTOLD, 6);
-        fails("a=[1];a![1].9", ITEM, 6);
-        fails("#1+x", KIND, 0);
-        fails("#x.0", UNTOLD, 0);
+        Checks.fails("[1]+x", UNTOLD, 0);
+        Checks.fails("[1]+2+x", KIND, 0);
+        Checks.fails("[1]+2*x", UNTOLD, 0);
+        Checks.fails("[1]*2*x", KIND, 0);
+        Checks.fails("[1].5+x", ITEM, 0);
+        Checks.fails("x+[1].5", UNTOLD, 0);
+        Checks.fails("[[1],x]", KIND, 0);
+        Checks.fails("[x,[1]]", UNTOLD, 0);
+        Checks.fails("[[1]+1,x]", KIND, 0);
+        Checks.fails("a!([1]+1)", UNTOLD, 0);
+        Checks.fails("a=[1];a!x", UNTOLD, 6);
+        Checks.fails("a=[1];a![1].9", ITEM, 6);
+        Checks.fails("#1+x", KIND, 0);
+        Checks.fails("#x.0", UNTOLD, 0);
     }
 
     private static NotebookWeir queried(String source, String query) {

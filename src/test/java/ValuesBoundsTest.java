@@ -37,19 +37,6 @@ public final class ValuesBoundsTest {
         Checks.end("ValuesBoundsTest");
     }
 
-    private static void gives(String text, int want) {
-        NotebookWeir x = Checks.notebook(text);
-        Checks.due(text + " runs", x.run(0), 0);
-        Checks.due(text, x.result(0, NONE), want);
-        Checks.due(text + " anew", x.resultAnew(0, NONE), want);
-    }
-
-    private static void fails(String text, int error, int place) {
-        NotebookWeir x = Checks.notebook(text);
-        Checks.due(text + " runs", x.run(0), 0);
-        Checks.due("error of " + text, x.error(0), 100 * error + place);
-    }
-
     /** Runs a second cell, behind one of EXPRESSIONS that it needs. */
     private static NotebookWeir ran(String source, String text, int language) {
         NotebookWeir x = Checks.notebook(source);
@@ -88,33 +75,33 @@ public final class ValuesBoundsTest {
 
     /** "A value is a number, an int"; "+ - * are of numbers, with overflow"; "it becomes the sum". */
     private static void numbers() {
-        gives(MOST, Integer.MAX_VALUE);
-        gives(LEAST, Integer.MIN_VALUE);
-        gives(MOST + "+1", Integer.MIN_VALUE);
-        gives(LEAST + "-1", Integer.MAX_VALUE);
-        gives("65536*32767*2+65535", 65536 * 32767 * 2 + 65535);
-        gives("65536*32768", Integer.MIN_VALUE);
-        gives("65536*65536", 0);
-        gives("46340*46340", 46340 * 46340);
-        gives("46341*46341", 46341 * 46341);
-        gives("0-65536*32768", Integer.MIN_VALUE);
-        gives("a=" + MOST + ";a!1;a", Integer.MIN_VALUE);
-        gives("a=" + LEAST + ";a!0-1;a", Integer.MAX_VALUE);
-        gives("a=" + MOST + ";a!0;a", Integer.MAX_VALUE);
-        gives("1-1", 0);
-        gives("0-1", -1);
+        Checks.gives(MOST, Integer.MAX_VALUE);
+        Checks.gives(LEAST, Integer.MIN_VALUE);
+        Checks.gives(MOST + "+1", Integer.MIN_VALUE);
+        Checks.gives(LEAST + "-1", Integer.MAX_VALUE);
+        Checks.gives("65536*32767*2+65535", 65536 * 32767 * 2 + 65535);
+        Checks.gives("65536*32768", Integer.MIN_VALUE);
+        Checks.gives("65536*65536", 0);
+        Checks.gives("46340*46340", 46340 * 46340);
+        Checks.gives("46341*46341", 46341 * 46341);
+        Checks.gives("0-65536*32768", Integer.MIN_VALUE);
+        Checks.gives("a=" + MOST + ";a!1;a", Integer.MIN_VALUE);
+        Checks.gives("a=" + LEAST + ";a!0-1;a", Integer.MAX_VALUE);
+        Checks.gives("a=" + MOST + ";a!0;a", Integer.MAX_VALUE);
+        Checks.gives("1-1", 0);
+        Checks.gives("0-1", -1);
     }
 
     /** "a number of 1 to 6 digits (as many as there are)". */
     private static void digits() {
-        gives("0", 0);
-        gives("9", 9);
-        gives("10", 10);
-        gives("99999", 99999);
-        gives("100000", 100000);
-        gives("999999", 999999);
-        gives("000000", 0);
-        gives("000009", 9);
+        Checks.gives("0", 0);
+        Checks.gives("9", 9);
+        Checks.gives("10", 10);
+        Checks.gives("99999", 99999);
+        Checks.gives("100000", 100000);
+        Checks.gives("999999", 999999);
+        Checks.gives("000000", 0);
+        Checks.gives("000009", 9);
         Checks.fault("999999", E, NONE);
         Checks.fault("9999999", E, 6);
         Checks.fault("0000000", E, 6);
@@ -122,12 +109,12 @@ public final class ValuesBoundsTest {
 
     /** "a row of at most 8 numbers"; "[ 1 to 8 expressions, with commas between them ]". */
     private static void rowsOfEight() {
-        gives("#" + EIGHT, 8);
-        gives("#[1,2,3,4,5,6,7]", 7);
-        gives("#[1]", 1);
-        gives("[1].0", 1);
-        gives(EIGHT + ".0", 1);
-        gives(EIGHT + ".7", 8);
+        Checks.gives("#" + EIGHT, 8);
+        Checks.gives("#[1,2,3,4,5,6,7]", 7);
+        Checks.gives("#[1]", 1);
+        Checks.gives("[1].0", 1);
+        Checks.gives(EIGHT + ".0", 1);
+        Checks.gives(EIGHT + ".7", 8);
         Checks.fault("[1,2,3,4,5,6,7,8,9]", E, 16);
         Checks.fault("[]", E, 1);
         NotebookWeir x = Checks.notebook("a=" + EIGHT, "a");
@@ -208,15 +195,15 @@ public final class ValuesBoundsTest {
 
     /** "A text has at most 40 characters": such a text runs as shorter ones do; "any number of" is as many as fit. */
     private static void fortyCharacters() {
-        gives("1;".repeat(19) + "12", 12);
-        gives("1+".repeat(19) + "12", 31);
-        gives("9-".repeat(19) + "12", 9 - 18 * 9 - 12);
-        gives("2*".repeat(19) + "12", 12 << 19);
+        Checks.gives("1;".repeat(19) + "12", 12);
+        Checks.gives("1+".repeat(19) + "12", 31);
+        Checks.gives("9-".repeat(19) + "12", 9 - 18 * 9 - 12);
+        Checks.gives("2*".repeat(19) + "12", 12 << 19);
         Checks.due("changed nine times", ran("1", "a=1;" + "a!a;".repeat(8) + "a!12", E).value('a', NONE), 268);
-        gives("#[1]" + "+1".repeat(18), 19);
-        fails("#".repeat(39) + "a", UNTOLD, 0);
-        fails("#".repeat(39) + "1", KIND, 0);
-        fails("[1]" + ".0".repeat(18), KIND, 0);
+        Checks.gives("#[1]" + "+1".repeat(18), 19);
+        Checks.fails("#".repeat(39) + "a", UNTOLD, 0);
+        Checks.fails("#".repeat(39) + "1", KIND, 0);
+        Checks.fails("[1]" + ".0".repeat(18), KIND, 0);
         heads("a=1", "b;c;d;e;f;g;h;i;j;k;l;m;n;o;p;q;r;s;t;u", "bcdefghijklmnopqrstu", "1".repeat(20));
         Checks.fault("1;".repeat(20), E, 40);
         Checks.fault("a;".repeat(20), R, 40);
@@ -224,26 +211,26 @@ public final class ValuesBoundsTest {
 
     /** Parts that stand in parts, as deep as 40 characters let them be. */
     private static void depths() {
-        gives("(".repeat(19) + "12" + ")".repeat(19), 12);
-        gives("1+(".repeat(9) + "1234" + ")".repeat(9), 1243);
-        gives("1-(".repeat(9) + "1234" + ")".repeat(9), -1233);
-        gives("1+1*(".repeat(6) + "1234" + ")".repeat(6), 1240);
-        gives("[".repeat(9) + "1234" + "].0".repeat(9), 1234);
-        gives("#[".repeat(12) + "1234" + "]".repeat(12), 1);
-        gives("[1,1,1,1,1,1,1,#" + EIGHT + "].7", 8);
-        fails("[".repeat(19) + "12" + "]".repeat(19), KIND, 0);
+        Checks.gives("(".repeat(19) + "12" + ")".repeat(19), 12);
+        Checks.gives("1+(".repeat(9) + "1234" + ")".repeat(9), 1243);
+        Checks.gives("1-(".repeat(9) + "1234" + ")".repeat(9), -1233);
+        Checks.gives("1+1*(".repeat(6) + "1234" + ")".repeat(6), 1240);
+        Checks.gives("[".repeat(9) + "1234" + "].0".repeat(9), 1234);
+        Checks.gives("#[".repeat(12) + "1234" + "]".repeat(12), 1);
+        Checks.gives("[1,1,1,1,1,1,1,#" + EIGHT + "].7", 8);
+        Checks.fails("[".repeat(19) + "12" + "]".repeat(19), KIND, 0);
     }
 
     /** "Names that a statement has defined or changed have that value in later ones", not in itself or ahead. */
     private static void laterStatements() {
-        gives("a=1;a=a+1;a=a+1;a", 3);
-        gives("a=1;b=a;a=5;b", 1);
-        gives("a=1;a!a+1;a", 3);
-        gives("a=1;a![a,a].1;a", 2);
-        gives("a=1;b=2;c=3;a+b+c", 6);
-        fails("a=a", UNTOLD, 0);
-        fails("b=a;a=1", UNTOLD, 0);
-        fails("a=b;b=a", UNTOLD, 0);
+        Checks.gives("a=1;a=a+1;a=a+1;a", 3);
+        Checks.gives("a=1;b=a;a=5;b", 1);
+        Checks.gives("a=1;a!a+1;a", 3);
+        Checks.gives("a=1;a![a,a].1;a", 2);
+        Checks.gives("a=1;b=2;c=3;a+b+c", 6);
+        Checks.fails("a=a", UNTOLD, 0);
+        Checks.fails("b=a;a=1", UNTOLD, 0);
+        Checks.fails("a=b;b=a", UNTOLD, 0);
         Checks.due("changed here, later", ran("a=1", "a!1;a", E).result(1, NONE), 2);
         Checks.due("changed here, ahead", ran("a=1", "b=a;a!1;b", E).result(1, NONE), 1);
         Checks.due("defined here behind that", ran("1", "b=1;b!1;b=7;b!1;b", E).result(1, NONE), 8);
@@ -375,9 +362,9 @@ public final class ValuesBoundsTest {
 
     /** "its last statement that is an expression; what a query defines; how many heads hold". */
     private static void results() {
-        gives("1;2;3", 3);
-        gives("1;a=2;b=3", 1);
-        gives("a=2;1;b=3", 1);
+        Checks.gives("1;2;3", 3);
+        Checks.gives("1;a=2;b=3", 1);
+        Checks.gives("a=2;1;b=3", 1);
         NotebookWeir x = Checks.notebook("a=1;b=2", "c=[1,2];c;d=3;d!1", "[1];2", "2;[1]");
         Checks.query(x, "q=a>1l");
         Checks.rules(x, "p;p;p:p");
@@ -398,13 +385,13 @@ public final class ValuesBoundsTest {
 
     /** "Errors of a run point to the first character of the statement or clause (0 for queries)". */
     private static void placesOfErrors() {
-        fails("x", UNTOLD, 0);
-        fails("1;x", UNTOLD, 2);
-        fails("1;".repeat(19) + "x", UNTOLD, 38);
-        fails("10;" + "1;".repeat(18) + "x", UNTOLD, 39);
-        fails("1;" + "a=" + "1+".repeat(16) + "x;7", UNTOLD, 2);
-        fails("x;y", UNTOLD, 0);
-        fails("1;[1].1;y", ITEM, 2);
+        Checks.fails("x", UNTOLD, 0);
+        Checks.fails("1;x", UNTOLD, 2);
+        Checks.fails("1;".repeat(19) + "x", UNTOLD, 38);
+        Checks.fails("10;" + "1;".repeat(18) + "x", UNTOLD, 39);
+        Checks.fails("1;" + "a=" + "1+".repeat(16) + "x;7", UNTOLD, 2);
+        Checks.fails("x;y", UNTOLD, 0);
+        Checks.fails("1;[1].1;y", ITEM, 2);
         Checks.due("of a query", ran("1", "b=a<1s", Q).error(1), 100 * UNTOLD);
         Checks.due("of a query behind other texts", ran("1;2;3", "b=a<1s", Q).error(1), 100 * UNTOLD);
         Checks.due("the first clause", ran("1", "p:a", R).error(1), 100 * UNTOLD);
@@ -421,50 +408,50 @@ public final class ValuesBoundsTest {
         String[] texts = {"[1]+1", "1+[1]", "[1]-1", "1-[1]", "[1]*1", "1*[1]", "[1]+[1]", "[[1]]", "[1,[1]]",
             "[1,2,3,4,5,6,7,[8]]", "#1", "#(1+1)", "1.0", "(1).0", "[1].0.0", "#[1].0", "##[1]", "#?", "@.0"};
         for (String text : texts) {
-            fails(text, KIND, 0);
+            Checks.fails(text, KIND, 0);
         }
-        fails("a=[1];a!1", KIND, 6);
-        fails("a=1;a![1]", KIND, 4);
-        fails("a=[1];a![1]", KIND, 6);
-        gives("([1]).0", 1);
-        gives("#([1])", 1);
-        gives("(#[1])+1", 2);
+        Checks.fails("a=[1];a!1", KIND, 6);
+        Checks.fails("a=1;a![1]", KIND, 4);
+        Checks.fails("a=[1];a![1]", KIND, 6);
+        Checks.gives("([1]).0", 1);
+        Checks.gives("#([1])", 1);
+        Checks.gives("(#[1])+1", 2);
     }
 
     /** "ITEM: a row has no such item". */
     private static void items() {
         for (int count = 1; count <= 8; count++) {
             String row = EIGHT.substring(0, 2 * count) + "]";
-            gives(row + "." + (count - 1), count);
+            Checks.gives(row + "." + (count - 1), count);
             for (int item = count; item <= 9; item++) {
-                fails(row + "." + item, ITEM, 0);
+                Checks.fails(row + "." + item, ITEM, 0);
             }
         }
     }
 
     /** "What is looked at first". */
     private static void lookedAtFirst() {
-        fails("[1].1+x", ITEM, 0);
-        fails("x+[1].1", UNTOLD, 0);
-        fails("#1+[1].1", KIND, 0);
-        fails("[1].1*x+#1", ITEM, 0);
+        Checks.fails("[1].1+x", ITEM, 0);
+        Checks.fails("x+[1].1", UNTOLD, 0);
+        Checks.fails("#1+[1].1", KIND, 0);
+        Checks.fails("[1].1*x+#1", ITEM, 0);
         // "both sides of + - * ahead of that"
-        fails("[1]+[1].1", ITEM, 0);
-        fails("[1]-x", UNTOLD, 0);
-        fails("[1]*x", UNTOLD, 0);
-        fails("1+[1]*x", UNTOLD, 0);
-        fails("1+[1]+x", KIND, 0);
-        fails("1*[1]*x", KIND, 0);
-        fails("[1]+([1]+x)", UNTOLD, 0);
+        Checks.fails("[1]+[1].1", ITEM, 0);
+        Checks.fails("[1]-x", UNTOLD, 0);
+        Checks.fails("[1]*x", UNTOLD, 0);
+        Checks.fails("1+[1]*x", UNTOLD, 0);
+        Checks.fails("1+[1]+x", KIND, 0);
+        Checks.fails("1*[1]*x", KIND, 0);
+        Checks.fails("[1]+([1]+x)", UNTOLD, 0);
         // "each item of [ ] as it ends"
-        fails("[[1],x]", KIND, 0);
-        fails("[[1]+x,[1].1]", UNTOLD, 0);
-        fails("[1,[2],[1].1]", KIND, 0);
-        fails("[1,[1].1,[2]]", ITEM, 0);
+        Checks.fails("[[1],x]", KIND, 0);
+        Checks.fails("[[1]+x,[1].1]", UNTOLD, 0);
+        Checks.fails("[1,[2],[1].1]", KIND, 0);
+        Checks.fails("[1,[1].1,[2]]", ITEM, 0);
         // "whether a name that is changed has a value ahead of what it is changed by"
-        fails("x![1].1", UNTOLD, 0);
-        fails("x!#1", UNTOLD, 0);
-        fails("a=[1];a![1].1", ITEM, 6);
-        fails("a=[1];a!x", UNTOLD, 6);
+        Checks.fails("x![1].1", UNTOLD, 0);
+        Checks.fails("x!#1", UNTOLD, 0);
+        Checks.fails("a=[1];a![1].1", ITEM, 6);
+        Checks.fails("a=[1];a!x", UNTOLD, 6);
     }
 }
